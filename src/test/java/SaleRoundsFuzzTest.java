@@ -12,6 +12,7 @@ public final class SaleRoundsFuzzTest {
     private int firms;
     private int goods;
     private int lastDay;
+    private int[] asked = {1, 6, 400};
     private int calls;
     private int spent;
     private int faults;
@@ -202,9 +203,13 @@ public final class SaleRoundsFuzzTest {
     }
 
     private void ask() {
-        int way = oddly(upTo(1));
-        int k = oddly(2 + upTo(4));
-        int d = oddly(upTo(pick(0, 2, lastDay, 400)));
+        // Often the same ones again, since what was found may have been kept where it should not.
+        if (upTo(2) == 0) {
+            asked = new int[] {oddly(upTo(1)), oddly(2 + upTo(4)), oddly(upTo(pick(0, 2, lastDay, 400)))};
+        }
+        int way = asked[0];
+        int k = asked[1];
+        int d = asked[2];
         int firm = oddly(random.nextInt(firms));
         String which = " " + way + " " + k + " " + d + " ";
         switch (upTo(18)) {

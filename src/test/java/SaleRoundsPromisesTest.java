@@ -187,6 +187,7 @@ public final class SaleRoundsPromisesTest {
         faulty(head + "sale p q 1 x 1 day 401;", 2, h + 19);
         faulty(head + "sale p q 1 x 1 day 4;", 5, h + 19);
         faulty(head + "sale q p 1 x 1 day 4 mark 0;", 5, h + 19);
+        faulty(head + "sale q p 1 x 1 day 0;", 5, h + 19);
         faulty(head + "sale p q 1 x 1 day 5 mark 100;", 2, h + 26);
         faulty(head + "sale p q 1 x 1 day 5 mark 1 mark 1;", 1, h + 28);
         faulty(head + "paid z 1;", 4, h + 5);
@@ -289,6 +290,7 @@ public final class SaleRoundsPromisesTest {
         due("takes of q alone", x.round(0, 2, 0, 0, 2), 5 * (30 - 10) * 10);
         due("takes of both", x.takes(0, 2, 0), 2000);
         x.undo();
+        due("none once one is taken back", x.rounds(0, 2, 0), 0);
         x.sell(1, 0, 7, 0, 30, 4, 1);
         due("days never fall", x.rounds(0, 6, 400), 1);
         due("days apart", x.rounds(0, 6, 0), 0);
@@ -421,6 +423,10 @@ public final class SaleRoundsPromisesTest {
         x.sell(2, 0, 1, 0, 1, 1, 0);
         x.sell(1, 0, 1, 0, 1, 2, 0);
         due("a way that must be taken back", x.flow(0, 0), 2);
+        x = made("land a 1;good x;firm p a 0;firm q a 0;firm r a 0;firm s a 0;firm t a 0;firm u a 0;"
+            + "sale p q 1 x 1 day 0;sale p r 1 x 1 day 0;sale q s 1 x 1 day 1;sale s p 1 x 1 day 2;sale r s 1 x 1 day 1;"
+            + "sale q t 1 x 1 day 1;sale t u 1 x 1 day 1;sale u p 1 x 1 day 1;");
+        due("a way that must be taken back by two sales", x.flow(0, 0), 2);
     }
 
     private static void luck() {
