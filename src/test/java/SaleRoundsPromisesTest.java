@@ -1,81 +1,11 @@
-import java.nio.charset.StandardCharsets;
-import java.util.NoSuchElementException;
-
 /** Each promise by hand: ordinary calls, the edges that the document names, wrong inputs. */
-public final class SaleRoundsPromisesTest {
+public final class SaleRoundsPromisesTest extends SaleRoundsChecks {
     /** Two lands; p and r are missing; one round by kind over all four firms. */
     private static final String RING = "land a 20;land b 10;good x;firm p a 0;firm q a 5 hand 3;firm r b 0 room 7;"
         + "firm s b 0 hand 3 room 7;sale p q 10 x 50 day 6 mark 1;sale q r 8 x 45 day 7 mark 1;"
         + "sale r s 8 x 60 day 7;sale s p 9 x 55 day 9 mark 1;paid p 50;";
     /** Four firms of one land, no sales. */
     private static final String FOUR = "land a 10;good x;good y;firm p a 0;firm q a 0;firm r a 0;firm s a 0;";
-
-    private static int wrong = 0;
-
-    private static void due(String what, long got, long want) {
-        if (got != want) {
-            wrong++;
-            System.out.println(what + ": answered " + got + ", due is " + want);
-        }
-    }
-
-    private static void feed(SaleRounds x, String text) {
-        byte[] bytes = text.getBytes(StandardCharsets.ISO_8859_1);
-        for (int i = 0; i < bytes.length; i += 20) {
-            int[] five = new int[5];
-            for (int j = 0; j < 20; j++) {
-                five[j / 4] = five[j / 4] << 8 | (i + j < bytes.length ? bytes[i + j] & 255 : 'Z');
-            }
-            x.feed(five[0], five[1], five[2], five[3], five[4]);
-        }
-    }
-
-    private static int tell(SaleRounds x, String text) {
-        feed(x, text);
-        return x.book(text.length());
-    }
-
-    private static SaleRounds made(String text) {
-        SaleRounds x = new SaleRounds();
-        if (tell(x, text) < 0) {
-            throw new IllegalStateException("fault " + x.fault(0) + " at " + x.fault(1) + " in " + text);
-        }
-        return x;
-    }
-
-    private static void faulty(String text, int fault, int place) {
-        SaleRounds x = new SaleRounds();
-        due("book of " + text, tell(x, text), -1);
-        due("fault of " + text, x.fault(0), fault);
-        due("place in " + text, x.fault(1), place);
-    }
-
-    private static int packed(String name) {
-        int letters = 0;
-        for (int i = 0; i < 6; i++) {
-            letters = letters * 32 + (i < name.length() ? name.charAt(i) - 96 : 0);
-        }
-        return letters;
-    }
-
-    private static long row(int... sales) {
-        long row = 0;
-        for (int i = 0; i < sales.length; i++) {
-            row |= (long) sales[i] << 6 * i;
-        }
-        return row;
-    }
-
-    private static int thrown(SaleRounds x, int sale, int what) {
-        try {
-            x.look(sale, what);
-            return 0;
-        } catch (IndexOutOfBoundsException e) {
-            return 1;
-        } catch (NoSuchElementException e) {
-            return 2;
-        }
-    }
 
     private static void newObject() {
         SaleRounds x = new SaleRounds();
@@ -585,9 +515,6 @@ public final class SaleRoundsPromisesTest {
         papers();
         stopping();
         starving();
-        System.out.println(wrong == 0 ? "all promises hold" : wrong + " answers are not as due");
-        if (wrong != 0) {
-            System.exit(1);
-        }
+        close();
     }
 }
