@@ -45,6 +45,13 @@ final class KnowBounds extends SaleRoundsChecks {
         due("at less than one of them", sign(x, 1, 1), 1);
         x.stop(7);
         due("those stopped have signs as well", sign(x, 1, 1), 1);
+        x.undo();
+        due("not once that sale is taken back", sign(x, 1, 1), 0);
+        x = firms(3);
+        sold(x, 1, 2, 1, 49, 5);
+        sold(x, 0, 1, 1, 50, 5);
+        x.undo();
+        due("nor once what it bought is", sign(x, 1, 1), 0);
     }
 
     private static void boughtFromMissing() {
@@ -74,6 +81,16 @@ final class KnowBounds extends SaleRoundsChecks {
         due("its buyer's buyer", sign(x, 2, 2), 1);
         x.rule(1);
         due("none is missing with the rule", sign(x, 2, 2), 0);
+        x = made("land a 10;land b 0;good x;firm a b 0;firm b b 0;firm c b 0;firm d a 0;firm m a 0;sale m d 1 x 9 day 0;sale a b 1 x 9 day 0;");
+        due("the last firm is missing", x.firm(4, 6), 1);
+        due("from one that bought nothing", sign(x, 1, 2), 0);
+        sold(x, 4, 2, 1, 1, 0);
+        sold(x, 2, 1, 1, 1, 0);
+        due("one of both is none such", sign(x, 1, 2), 0);
+        sold(x, 4, 0, 1, 1, 0);
+        due("both bought from the last firm", sign(x, 1, 2), 1);
+        x.undo();
+        due("one of them took that back", sign(x, 1, 2), 0);
     }
 
     private static void inTwoRounds() {
@@ -99,6 +116,7 @@ final class KnowBounds extends SaleRoundsChecks {
         sold(x, 0, 1, 1, 1, 0);
         sold(x, 1, 0, 1, 1, 0);
         due("on one day a ring is two rows", sign(x, 0, 4), 1);
+        due("and no other sign", x.signs(0, 1, 2, 0), 4);
     }
 
     private static void missingBeside() {
@@ -183,6 +201,10 @@ final class KnowBounds extends SaleRoundsChecks {
         }
         due("must by 2 and 8", x.knew(10, 1, 2, 0, 0), bits(1));
         due("may by 1 and 8", x.knew(9, 1, 2, 0, 1), bits(1, 2, 4));
+        x = made("land a 0;good x;firm a a 0;firm b a 0;sale b a 1 x 9 day 0;sale a b 1 x 8 day 0;");
+        due("the first firm must", x.knew(1, 1, 2, 0, 0), bits(0));
+        due("the first firm may", x.knew(3, 1, 2, 0, 1), bits(0));
+        due("both by their rounds", x.knew(4, 1, 2, 0, 0), bits(0, 1));
         // A missing firm with signs: b sells on to a at less and owes more than it paid.
         x = firms(3);
         sold(x, 0, 1, 1, 9, 0);

@@ -12,6 +12,7 @@ final class RemedyBounds extends SaleRoundsChecks {
         ruling();
         burdens();
         starving();
+        fiveLands();
         starvingPastTheRule();
         starveAnswers();
     }
@@ -78,6 +79,11 @@ final class RemedyBounds extends SaleRoundsChecks {
         x.stop(0);
         x.rule(1);
         due("nothing is taken with the rule", x.fewest(1, 2, 1, 0), 0);
+        x = made("land a 1;good x;firm a a 0;firm b a 0;");
+        exchange(x, 0, 1, 0, 1);
+        due("a round that takes 1", x.takes(1, 2, 1), 1);
+        due("is to be stopped", x.fewest(1, 2, 1, 0), 1);
+        due("but not for a t of 1", x.fewest(1, 2, 1, 1), 0);
         // A round that takes nothing needs no one to stop.
         x = firms(2);
         exchange(x, 0, 1, 0, 0);
@@ -281,6 +287,29 @@ final class RemedyBounds extends SaleRoundsChecks {
         x = lands(0, 0, 3, 5);
         due("less taken ahead of less burden", x.starve(1, 2, 1, 5, 0), 2);
         due("a purse one too small", x.starve(1, 2, 1, 4, 0), 0);
+    }
+
+    private static void fiveLands() {
+        StringBuilder text = new StringBuilder("land a 1;land b 2;land c 3;land d 4;land e 5;good x;");
+        for (int i = 0; i < 10; i++) {
+            text.append("firm ").append((char) ('a' + i)).append(" ").append((char) ('a' + i / 2)).append(" 0;");
+        }
+        SaleRounds x = made(text.toString());
+        for (int i = 0; i < 10; i += 2) {
+            exchange(x, i, i + 1, 0, 1);
+        }
+        due("five rounds take", x.takes(1, 2, 1), 15);
+        due("all five lands", x.starve(1, 2, 1, 0, 0), 31);
+        due("nothing is left", x.starve(1, 2, 1, 0, 1), 0);
+        due("no burden", x.starve(1, 2, 1, 0, 2), 0);
+        x.pay(9, 1);
+        due("two sales are honest then", x.burden(4), 2);
+        due("four lands", x.starve(1, 2, 1, MOST, 0), 15);
+        tell(x, "land a 1;good x;firm p a 0;firm q a 0;sale p q 1 x 1 day 0;sale q p 1 x 2 day 1;");
+        due("one land in a new book", x.starve(1, 2, 1, 0, 0), 1);
+        due("what is left in it", x.starve(1, 2, 1, 0, 1), 0);
+        x.pay(1, 1);
+        due("nothing to starve", x.starve(1, 2, 1, 0, 1), 0);
     }
 
     private static void starvingPastTheRule() {

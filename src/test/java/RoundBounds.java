@@ -66,7 +66,7 @@ final class RoundBounds extends SaleRoundsChecks {
         sold(x, 0, 1, 1, 1, 0);
         due("one sale", x.rounds(1, 6, 400), 0);
         int[][] pairs = {{0, 0, 5, 5, 1, 1}, {1, 1, 99, 99, 1, 1}, {0, 0, 1, 1, 1, 1}, {0, 0, 5, 6, 0, 1}, {0, 0, 5, 0, 0, 1}, {0, 0, 0, 5, 0, 1},
-            {0, 0, 0, 0, 0, 1}, {0, 1, 5, 5, 0, 0}, {1, 0, 0, 0, 0, 0}};
+            {0, 0, 0, 0, 0, 1}, {0, 1, 5, 5, 0, 0}, {1, 0, 0, 0, 0, 0}, {0, 1, 2, 1, 0, 0}, {1, 0, 1, 2, 0, 0}, {0, 1, 5, 1, 0, 0}, {0, 1, 3, 1, 0, 0}};
         for (int[] p : pairs) {
             x = firms(2);
             pair(x, p[0], p[1], p[2], p[3]);
@@ -76,7 +76,6 @@ final class RoundBounds extends SaleRoundsChecks {
             due(told + " judged by marks", x.judge(0, 2, row(0, 1)), p[4]);
             due(told + " judged by kind", x.judge(1, 2, row(0, 1)), p[5]);
         }
-        // A mark times goods must not be taken for another mark's other good.
         x = firms(3);
         x.sell(0, 1, 1, 0, 1, 0, 2);
         x.sell(1, 2, 1, 1, 1, 1, 2);
@@ -158,6 +157,10 @@ final class RoundBounds extends SaleRoundsChecks {
             due("stopped " + firm + " takes", x.round(1, 3, 2, 0, 0), left == 1 ? 3 : -1);
             x.stop(0);
             due("no longer", x.rounds(0, 3, 2), 1);
+            x.stop(1 << firm);
+            due("once more", x.rounds(0, 3, 2), left);
+            x.stop(0);
+            due("no longer once more", x.rounds(0, 3, 2), 1);
         }
     }
 
@@ -237,6 +240,13 @@ final class RoundBounds extends SaleRoundsChecks {
             }
             due("carries of " + java.util.Arrays.toString(n), x.round(1, 3, 2, 0, 1), Math.min(n[0], Math.min(n[1], n[2])));
         }
+        SaleRounds x = firms(3);
+        sold(x, 2, 1, 1, 9, 0);
+        sold(x, 0, 1, 7, 1, 1);
+        sold(x, 1, 0, 8, 1, 2);
+        due("a sale beside it is less", x.round(1, 2, 1, 0, 1), 7);
+        due("its firms alone", x.round(1, 2, 1, 0, 3), 3);
+        due("what the seller beside it takes is none of it", x.takes(1, 2, 1), 0);
     }
 
     private static void taken() {
@@ -290,6 +300,14 @@ final class RoundBounds extends SaleRoundsChecks {
         sold(x, 1, 0, 3, 1, 0);
         due("by two sales", x.flow(0, 0), 7);
         due("of the other good", x.flow(0, 1), 0);
+        x = firms(2);
+        sold(x, 0, 1, 5, 1, 0);
+        sold(x, 1, 0, 2, 1, 0);
+        sold(x, 1, 0, 9, 1, 0);
+        due("no more than it sold, though more came", x.flow(0, 0), 5);
+        due("asked again", x.flow(0, 0), 5);
+        x.undo();
+        due("once one is taken back", x.flow(0, 0), 2);
         x = firms(12);
         for (int i = 0; i < 12; i++) {
             x.sell(i, (i + 1) % 12, 5, 0, 1, 30 * i, i);
@@ -384,6 +402,14 @@ final class RoundBounds extends SaleRoundsChecks {
         due("late ones have the late way alone", x.flow(0, 0), 7);
     }
 
+    private static int flowOf(int firm, int[][] sales) {
+        SaleRounds x = firms(5);
+        for (int[] s : sales) {
+            sold(x, s[0], s[1], s[2], 1, s[3]);
+        }
+        return x.flow(firm, 0);
+    }
+
     /** The first way found blocks the others, whatever the order in which the sales were told. */
     private static void waysTakenBack() {
         says("FLOW of a FIRM and a GOOD: the most of it that can have gone from it and come back:");
@@ -405,6 +431,22 @@ final class RoundBounds extends SaleRoundsChecks {
             sold(x, 0, 6, 1, 1, 0);
             sold(x, 6, 1, 1, 1, 0);
             due("wider, order " + java.util.Arrays.toString(order), x.flow(0, 0), 4);
+        }
+        int[][] late = {{0, 1, 1, 1}, {0, 1, 1, 5}, {0, 1, 1, 5}, {1, 0, 1, 5}, {1, 0, 1, 2}, {1, 0, 1, 2}};
+        due("the early one gives way once, not twice", flowOf(0, late), 2);
+        int[][] shared = {{0, 1, 1, 1}, {0, 1, 2, 3}, {0, 1, 2, 5}, {1, 0, 3, 5}, {1, 0, 2, 2}};
+        due("no more gives way than was sent", flowOf(0, shared), 4);
+        int[][] around = {{2, 3, 4, 0}, {3, 1, 3, 0}, {1, 4, 3, 0}, {2, 3, 3, 0}, {4, 3, 4, 0}, {1, 2, 1, 0}, {0, 1, 4, 0}, {4, 0, 4, 0}};
+        due("no more than it sold, by three ways", flowOf(1, around), 4);
+        int[][] twoDays = {{2, 0, 1, 0}, {0, 1, 1, 1}, {1, 2, 1, 0}, {2, 0, 2, 2}, {0, 1, 1, 0}, {0, 1, 2, 3}, {1, 2, 1, 3}};
+        due("an early and a late one", flowOf(2, twoDays), 2);
+        SaleRounds x = firms(2);
+        sold(x, 0, 1, 1, 1, 1);
+        sold(x, 1, 0, 2, 1, 3);
+        sold(x, 0, 1, 1, 1, 1);
+        for (int i = 0; i < 3; i++) {
+            due("from a", x.flow(0, 0), 2);
+            due("from b, whatever was asked ahead", x.flow(1, 0), 0);
         }
     }
 
@@ -497,6 +539,14 @@ final class RoundBounds extends SaleRoundsChecks {
         SaleRounds spent = crowd(20, 20);
         due("two", x.rounds(1, 2, 0), 2);
         due("by the most", x.rounds(1, 6, 400), 2);
+        x.undo();
+        due("one is taken back", x.rounds(1, 6, 400), 0);
+        sold(x, 1, 0, 1, 1, 0);
+        due("and told again", x.rounds(1, 6, 400), 2);
+        tell(x, "!");
+        due("a faulty book", x.rounds(1, 6, 400), 2);
+        tell(x, "land a 1;good x;firm p a 0;firm q a 0;sale p q 1 x 1 day 0;");
+        due("a new book", x.rounds(1, 6, 400), 0);
         due("spent", spent.rounds(1, 2, 0), -2);
         due("spent by marks", spent.rounds(0, 6, 400), -2);
         for (int[] w : WRONG) {

@@ -55,6 +55,7 @@ public final class SaleRoundsBoundsTest extends SaleRoundsChecks {
         RoundBounds.run();
         KnowBounds.run();
         RemedyBounds.run();
+        FullBounds.run();
         tellUntested();
         close();
     }

@@ -249,6 +249,19 @@ final class TextBounds extends SaleRoundsChecks {
         }
         faulty("land a 41 !", 2, 7);
         faulty("land ! 41;", 1, 5);
+        // What can't stand there might be too much, told already or not told besides: 1 is the least.
+        faulty("good 99999999999;", 1, 5);
+        faulty("good x;good x x;", 3, 12);
+        faulty(HEAD + "good y y;", 1, H + 7);
+        faulty(HEAD + "good y z;", 1, H + 7);
+        faulty(HEAD + "paid p p;", 1, H + 7);
+        faulty(HEAD + "paid p 1 1000000;", 1, H + 9);
+        faulty(HEAD + "sale p q q 1 x 1 day 5;", 1, H + 9);
+        faulty(HEAD + "sale p 1000 1 x 1 day 5;", 1, H + 7);
+        faulty(HEAD + "sale p q 1 x 1 401;", 1, H + 15);
+        faulty(HEAD + "sale p q 1 x 1 day 5 hand 1 hand 1;", 1, H + 21);
+        faulty("land a 0;land b 0;land c 0;land d 0;land e 0;good land 0;", 1, 50);
+        faulty("good a;good b;good c;good d;land good 0;", 1, 33);
         faulty(HEAD + "sale z z 0 z 0 day 401 mark 0;", 4, H + 5);
         faulty(HEAD + "sale p p 0 z 0 day 401 mark 0;", 3, H + 7);
         faulty(HEAD + "sale p q 0 z 0 day 401 mark 0;", 2, H + 9);
@@ -295,6 +308,12 @@ final class TextBounds extends SaleRoundsChecks {
         feed(x, "land a 10;good bb;  ");
         due("a text cut within a number", x.book(8), -1);
         due("its place", x.fault(1), 8);
+        feed(x, "land a 10;good bb;  ");
+        due("a text cut within a name", x.book(16), -1);
+        due("its place", x.fault(1), 16);
+        feed(x, "land a 10;good bb;  ");
+        due("a text cut within a line's word", x.book(13), -1);
+        due("its place", x.fault(1), 10);
         StringBuilder full = new StringBuilder("good a");
         full.append(" ".repeat(800 - full.length()));
         faulty(full.toString(), 1, 800);
@@ -373,7 +392,29 @@ final class TextBounds extends SaleRoundsChecks {
         due("told by the book ahead", tell(x, "firm r a 0;"), -1);
         due("its fault", x.fault(0), 4);
         due("its place", x.fault(1), 7);
-        due("nor by a faulty one", tell(x, "good z;!") + tell(x, "good z;"), 0);
+        // Nor what two faulty ones have told, nor the book ahead of the one ahead.
+        String much = "land b 1;good y;firm a b 0 hand 1 room 2;firm b b 0 hand 1;sale a b 1 y 1 day 0;paid a 5;";
+        due("one of each", tell(x, much), 6);
+        x.sell(0, 1, 1, 0, 1, 0, 0);
+        due("the same once more", tell(x, much), 6);
+        x.sell(0, 1, 1, 0, 1, 0, 0);
+        due("faulty", tell(x, much + "!"), -1);
+        due("faulty again", tell(x, much + "!"), -1);
+        due("one that tells less", tell(x, "land b 1;good y;firm a b 0;firm b b 0;"), 4);
+        due("lands", x.count(0), 1);
+        due("goods", x.count(1), 1);
+        due("firms", x.count(2), 2);
+        due("sales", x.count(3), 0);
+        due("told by sell", x.count(4), 0);
+        due("nothing to take back", x.undo(), -1);
+        due("no hand", x.firm(0, 2), 0);
+        due("no room", x.firm(0, 3), 0);
+        due("nothing paid", x.firm(0, 5), 0);
+        due("two parties", x.hands(), 2);
+        due("paid can be told again", tell(x, "land b 1;firm a b 0;paid a 6;"), 3);
+        due("and again", tell(x, "land b 1;firm a b 0;paid a 7;"), 3);
+        due("and again, once more", tell(x, "land b 1;firm a b 0;paid a 8;"), 3);
+        due("paid", x.firm(0, 5), 800);
     }
 
     private static void newObject() {
